@@ -55,9 +55,9 @@ public final class WeighedHall {
     private final Ballots[] imageBallots = new Ballots[IMAGES_MOST];
     private int images;
 
-    private final Chronicle chronicle = new Chronicle(plan, loans);
-    private final Sitting pausing = new Sitting(plan, loans);
-    private final Sitting behind = new Sitting(plan, loans);
+    private final Chronicle chronicle = new Chronicle();
+    private final Sitting pausing = new Sitting();
+    private final Sitting behind = new Sitting();
     private final Carrying carrying = new Carrying();
     private final Bringing bringing = new Bringing();
     private final Scales scales = new Scales();
@@ -839,8 +839,9 @@ public final class WeighedHall {
 
     /** A sitting behind the minute that it has come to. */
     private static final class Sitting {
-        private Plan plan;
-        private Loans loans;
+        /** Of nobody, until it begins: so there is always a plan to look at. */
+        private Plan plan = new Plan();
+        private Loans loans = new Loans();
         private final int[] holder = new int[THINGS_MOST];
         private final int[] through = new int[THINGS_MOST];
         /** By which lending a thing is away; a lending that did not take place gives nothing back. */
@@ -849,11 +850,6 @@ public final class WeighedHall {
         private final int[] strength = new int[PERSONS_MOST];
         private final int[] spentAt = new int[PERSONS_MOST];
         private final int[] doorFree = new int[DOORS_MOST];
-
-        private Sitting(Plan plan, Loans loans) {
-            this.plan = plan;
-            this.loans = loans;
-        }
 
         /** A thing that is not (without) stays outside for good: nobody ever holds it. */
         private void begin(Plan hall, Loans lendings, int without) {
@@ -994,15 +990,11 @@ public final class WeighedHall {
 
     /** What a sitting as told was like behind each of its minutes. */
     private static final class Chronicle {
-        private final Sitting sitting;
+        private final Sitting sitting = new Sitting();
         private final int[] holders = new int[MINUTES * THINGS_MOST];
         private final int[] strengths = new int[MINUTES * PERSONS_MOST];
         private final int[] counts = new int[MOTIONS_MOST * LAWS * 2];
         private boolean known;
-
-        private Chronicle(Plan plan, Loans loans) {
-            sitting = new Sitting(plan, loans);
-        }
 
         private void goThroughAll(Plan plan, Loans loans) {
             sitting.begin(plan, loans, NONE);

@@ -1,6 +1,7 @@
 import java.nio.charset.StandardCharsets;
 import java.util.Arrays;
 import java.util.NoSuchElementException;
+import java.util.Random;
 
 /** What all tests of the project share: telling a text to a hall, and counting answers that are not as due. */
 final class Check {
@@ -66,6 +67,11 @@ final class Check {
             number = number << 8 | bytes[i] & 255;
         }
         return number;
+    }
+
+    /** The first draws of neighbouring small seeds are nearly alike, so the seeds are spread. */
+    static Random drawn(int seed) {
+        return new Random((seed + 1) * 0x9E3779B97F4A7C15L);
     }
 
     static int hall(WeighedHall x, String text) {

@@ -30,7 +30,7 @@ public final class FaultsTest {
     public static void main(String[] args) {
         int runs = args.length > 0 ? Integer.parseInt(args[0]) : 30000;
         for (int seed = 0; seed < runs; seed++) {
-            Random r = new Random(seed);
+            Random r = Check.drawn(seed);
             String hall = spoil(drawHall(r), r, 600);
             String lendings = spoil(drawLendings(r), r, 300);
             WeighedHall x = new WeighedHall();

@@ -1,6 +1,7 @@
 import java.util.ArrayList;
 import java.util.Arrays;
 import java.util.List;
+import java.util.Random;
 
 /**
  * The document once more, in the plainest form and without regard to speed:
@@ -329,7 +330,7 @@ final class PlainHall {
         return -1;
     }
 
-    String hallText(java.util.Random r) {
+    String hallText(Random r) {
         StringBuilder text = new StringBuilder();
         for (int[] p : persons) {
             clause(text, r, "person", p[0], p[1]);
@@ -353,7 +354,7 @@ final class PlainHall {
         return text.toString();
     }
 
-    String lendingsText(java.util.Random r) {
+    String lendingsText(Random r) {
         StringBuilder text = new StringBuilder();
         for (int[] l : lendings) {
             clause(text, r, "lend", l[0], l[1], l[2], l[3]);
@@ -361,7 +362,7 @@ final class PlainHall {
         return text.toString();
     }
 
-    private static void clause(StringBuilder text, java.util.Random r, String word, int... numbers) {
+    private static void clause(StringBuilder text, Random r, String word, int... numbers) {
         text.append(r.nextInt(9) == 0 ? " " : "").append(word);
         for (int i = 0; i < numbers.length; i++) {
             text.append(i > 0 || r.nextInt(3) > 0 ? " " : "").append(numbers[i]);

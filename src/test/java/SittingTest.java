@@ -30,7 +30,8 @@ public final class SittingTest {
         CHECK.due("through, inside", x.thing(1, 3), 0);
         CHECK.due("through from its start on, rounded up", x.thing(2, 3), 4);
         CHECK.due("through behind the one ahead", x.thing(3, 3), 5);
-        CHECK.due("through behind the last minute", Check.told("person 0 1;door 1;outside 0 99 0 99;").thing(0, 3), 198);
+        WeighedHall late = Check.told("person 0 1;door 1;outside 0 99 0 99;");
+        CHECK.due("through behind the last minute", late.thing(0, 3), 198);
         WeighedHall y = Check.told("person 0 1;door 4;door 2;outside 0 8 0 0;outside 0 8 1 0;outside 0 1 0 50;");
         CHECK.due("no part of a minute over", y.thing(0, 3), 2);
         CHECK.due("another door does not wait", y.thing(1, 3), 4);

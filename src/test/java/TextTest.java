@@ -12,6 +12,8 @@ public final class TextTest {
         numbersOfLendings();
         aFaultChangesNothing();
         aHallClearsTheRest();
+        hallsOneBehindTheOther();
+        textsShorterThanTheTape();
         CHECK.end("TextTest");
     }
 
@@ -59,6 +61,8 @@ public final class TextTest {
         hallFault("  lawx 1;", 1, 2);
         hallFault("Law 1;", 1, 0);
         hallFault("lawX 1;", 1, 3);
+        hallFault("lawz 1;", 1, 0);
+        hallFault("alaw 1;", 1, 0);
         hallFault(";", 1, 0);
         hallFault("law 1;;", 1, 6);
         hallFault("law 1", 1, 5);
@@ -191,6 +195,51 @@ public final class TextTest {
         CHECK.due("the last law counts", x.told(5), 1);
         CHECK.due("hall(0)", x.hall(0), 0);
         CHECK.due("law", x.told(5), 0);
+    }
+
+    /** Nothing of an earlier hall, nor of one with a fault, is left in a later one. */
+    private static void hallsOneBehindTheOther() {
+        String full = "person 0 9;person 1 9;door 1;outside 0 5 0 0;outside 1 5 0 0;thing 0 7;motion 1 1 2;law 2;";
+        WeighedHall x = Check.told(full);
+        CHECK.due("through", x.thing(0, 3), 5);
+        CHECK.due("by heads", x.motion(0, 0, 0), 7);
+        CHECK.due("hall", Check.hall(x, "person 0 9;thing 0 3;motion 1 1 0;"), 1);
+        CHECK.due("through of a thing inside", x.thing(0, 3), 0);
+        CHECK.due("who holds", x.holds(0, 0), 0);
+        CHECK.due("for", x.motion(0, 0, 0), 3);
+        CHECK.due("hall with a fault at its end", Check.hall(x, full + "law"), -9);
+        CHECK.due("for", x.motion(0, 0, 0), 3);
+        CHECK.due("an empty hall", x.hall(0), 0);
+        for (int what = 0; what <= 5; what++) {
+            CHECK.due("told(" + what + ")", x.told(what), 0);
+        }
+        CHECK.due("passes", x.passes(0), 0);
+        CHECK.due("sums", x.sums(0, 1), 0);
+        CHECK.due("hall", Check.hall(x, full), 2);
+        CHECK.due("hall", Check.hall(x, "door 1;"), 0);
+        CHECK.due("things", x.told(1), 0);
+        CHECK.due("doors", x.told(2), 1);
+        CHECK.due("motions", x.told(3), 0);
+        CHECK.due("law", x.told(5), 0);
+        CHECK.due("hollow", x.hollow(0), 1);
+    }
+
+    private static void textsShorterThanTheTape() {
+        WeighedHall x = new WeighedHall();
+        Check.feed(x, "law 1;");
+        CHECK.due("no stop in the text", x.hall(5), -9);
+        CHECK.due("fault at the length", x.fault(), 5);
+        Check.feed(x, "law 1;lawx");
+        CHECK.due("a word that ends with the text", x.hall(9), -9);
+        CHECK.due("fault at the length", x.fault(), 9);
+        Check.feed(x, "law 12;");
+        CHECK.due("a number that ends with the text", x.hall(5), -9);
+        CHECK.due("fault at the length", x.fault(), 5);
+        Check.feed(x, "law 1;law 2;");
+        CHECK.due("clauses in the text", x.hall(6), 0);
+        CHECK.due("law in the text", x.told(5), 1);
+        Check.feed(x, "law 1;       x");
+        CHECK.due("blanks in the text", x.hall(9), 0);
     }
 
     private static void hallFault(String text, int kind, int place) {

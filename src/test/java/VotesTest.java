@@ -47,6 +47,7 @@ public final class VotesTest {
         x.vote(0, 2, -3);
         hollowIs(x, 0, 0, 0, -1, -1);
         x.forget();
+        hollowIs(x, 8, 0, 0, 0, 0);
         x.vote(0, 2, -2);
         hollowIs(x, 4, 4, 0, 1, 4);
         WeighedHall alike = Check.told("person 0 1;thing 0 4;thing 0 4;");
@@ -64,6 +65,11 @@ public final class VotesTest {
         WeighedHall fewer = Check.told("person 0 1;thing 0 4;thing 0 4;thing 0 8;");
         fewer.vote(1, 0, 12);
         hollowIs(fewer, 2, 0, 0, 1, 4);
+        WeighedHall nine = Check.told(HALL);
+        for (int i = 0; i < 9; i++) {
+            nine.vote(1, 2, 8);
+        }
+        hollowIs(nine, 2, 0, 2, 0, 0);
     }
 
     private static void speeches() {
@@ -76,6 +82,8 @@ public final class VotesTest {
         CHECK.due("nothing is changed by it", x.spent(0), 6);
         String door = "person 0 9;person 1 9;thing 1 5;door 1;outside 0 6 0 0;motion 3 1 2;";
         CHECK.due("doors do not wait", Check.told(door).tired(0), 3);
+        CHECK.due("doors do not wait", Check.told(door).speech(0, 3), true);
+        CHECK.due("doors do not hurry", Check.told(door).speech(0, 2), false);
         CHECK.due("by heads", Check.told(door + "law 2;").tired(0), -1);
         CHECK.due("by roots", Check.told(door + "law 1;").tired(0), -1);
         WeighedHall late = Check.told("person 0 8;thing 0 3;motion 119 1 0;");
@@ -136,10 +144,26 @@ public final class VotesTest {
         CHECK.due("lendings", x.told(4), 0);
         CHECK.due("votes", x.count(0), 0);
         CHECK.due("restore", x.restore(), -1);
+        restoredVotes();
         x.image();
         CHECK.illegal("told(9)", () -> x.told(9));
         x.restore();
         CHECK.due("no image keeps the status", x.status(1), 1);
+    }
+
+    private static void restoredVotes() {
+        WeighedHall x = Check.told(HALL);
+        x.vote(1, 0, 10);
+        x.image();
+        x.forget();
+        x.vote(2, 1, -5);
+        x.image();
+        x.forget();
+        x.vote(1, 2, 3);
+        CHECK.due("restore", x.restore(), 1);
+        hollowIs(x, 1, 1, 6, 1, 1);
+        CHECK.due("restore", x.restore(), 0);
+        hollowIs(x, 2, 1, 2, 1, 1);
     }
 
     private static void counts() {

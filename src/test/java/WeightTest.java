@@ -75,6 +75,7 @@ public final class WeightTest {
     }
 
     private static void power() {
+        CHECK.due("powers() ahead of any power", Check.told(THREE).powers(), 5);
         WeighedHall x = Check.told(THREE);
         CHECK.due("power(0)", x.power(0), 3);
         CHECK.due("power(1)", x.power(1), 1);
