@@ -32,6 +32,8 @@ public final class WeighedHall {
     private static final int MORE_MOST = 9999;
     private static final int POUNDS_MOST = 99;
     private static final int STRENGTH_BY_ARM = 60;
+    /** Above the root of all pounds that a hall can have. */
+    private static final int ROOT_MOST = 40;
 
     private static final int LAW_POUNDS = 0;
     private static final int LAW_HEADS = 2;
@@ -456,7 +458,7 @@ public final class WeighedHall {
 
     private static int rootOf(int pounds) {
         int root = 0;
-        for (int next = 1; next <= POUNDS_MOST && next * next <= pounds; next++) {
+        for (int next = 1; next <= ROOT_MOST && next * next <= pounds; next++) {
             root = next;
         }
         return root;
