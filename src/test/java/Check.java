@@ -7,6 +7,7 @@ import java.util.Random;
 final class Check {
     private int wrong;
     private int asked;
+    private String sentence = "";
 
     /** A call that may be refused. */
     interface Call {
@@ -17,8 +18,17 @@ final class Check {
         asked++;
         if (got != want) {
             wrong++;
-            System.out.println(call + " answered " + got + ", due is " + want);
+            System.out.println(sentence + call + " answered " + got + ", due is " + want);
         }
+    }
+
+    /** The document's sentence that the next answers are asked for. */
+    void says(String words) {
+        sentence = "\"" + words + "\": ";
+    }
+
+    void same(String call, String got, String want) {
+        due(call + " left '" + got + "', due is '" + want + "':", got.equals(want), true);
     }
 
     void due(String call, boolean got, boolean want) {
