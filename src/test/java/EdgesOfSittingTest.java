@@ -21,6 +21,7 @@ public final class EdgesOfSittingTest {
         lendingIfNotSpent();
         spentBelowZero();
         allOnTheFloorForGood();
+        theTenthOfFourteen();
         pounds();
         roots();
         heads();
@@ -242,6 +243,25 @@ public final class EdgesOfSittingTest {
         WeighedHall away = told("person 0 1;person 0 99;thing 0 5;thing 0 61;", "lend 0 1 0 50;");
         CHECK.due("the owner is spent", away.spent(0), 0);
         held(away, 0, 0, 1, 49, 1, 50, FLOOR);
+    }
+
+    private static void theTenthOfFourteen() {
+        CHECK.says("PERSONS, 10 at most; THINGS, 14 at most");
+        String full = "person 0 99;".repeat(9) + "person 0 1;door 1;" + "thing 9 5;".repeat(12) + "outside 9 7 0 0;outside 0 9 0 0;";
+        WeighedHall x = told(full, "lend 13 9 16 20;");
+        CHECK.due("the tenth person has no strength left", x.pounds(9, 0, 1), 0);
+        CHECK.due("he is spent", x.spent(9), 1);
+        CHECK.due("his strength", x.pounds(9, 119, 1), -60);
+        held(x, 11, 0, 9, 1, FLOOR);
+        held(x, 12, 6, OUTSIDE, 7, FLOOR);
+        held(x, 13, 15, OUTSIDE, 16, 0, 17, 0);
+        CHECK.due("pounds of the first", x.pounds(0, 16, 0), 9);
+        CHECK.due("pounds of the tenth", x.pounds(9, 16, 0), 0);
+        WeighedHall last = Check.told("person 0 1;".repeat(9) + "person 0 99;" + "thing 0 1;".repeat(13) + "thing 9 8;motion 119 512 1;");
+        CHECK.due("the last thing", last.holds(13, 119), 9);
+        CHECK.due("pounds of the tenth", last.pounds(9, 119, 0), 8);
+        CHECK.due("strength of the tenth", last.pounds(9, 119, 1), 5940 - 960);
+        CHECK.due("what the tenth counts", last.motion(0, 0, 0), 8);
     }
 
     private static void counted(String hall, int motion, int law, int f, int g, int passes) {

@@ -30,6 +30,7 @@ public final class EdgesOfTextsTest {
         bytesOfANumber();
         hallTakesTheFirstBytes();
         hallClears();
+        hallAfterHall();
         hallWithAFault();
         hallRefused();
         lend();
@@ -482,6 +483,8 @@ public final class EdgesOfTextsTest {
         CHECK.says("are the HALL (LENDINGS, VOTES, IMAGES gone): how many PERSONS");
         String same = "person 0 3;person 1 2;thing 0 5;thing 1 4;motion 3 1 2;law 1;";
         WeighedHall x = rich();
+        CHECK.due("what was lent", x.holds(0, 0), 1);
+        CHECK.due("hollow by a vote", x.hollow(0), 1);
         CHECK.due("the same hall", Check.hall(x, same), 2);
         CHECK.due("lendings", x.told(4), 0);
         CHECK.due("votes", x.count(0), 0);
@@ -493,6 +496,37 @@ public final class EdgesOfTextsTest {
         CHECK.due("an empty hall", y.hall(0), 0);
         CHECK.same("an empty hall", Answers.of(y), Answers.of(new WeighedHall()));
         CHECK.due("ten persons", Check.hall(y, ONE.repeat(10)), 10);
+    }
+
+    /** Nothing of earlier halls is left, be they right ones or not. */
+    private static void hallAfterHall() {
+        CHECK.says("The first n bytes of the TAPE are the HALL");
+        String[] halls = {"person 3 9;person 1 8;door 2;outside 1 7 0 5;outside 0 6 0 0;thing 0 5;motion 9 1 2;motion 1 3 0;law 2;",
+            "person 2 1;thing 0 99;thing 0 2;motion 0 1 0;", "", "door 1;door 2;door 3;law 1;", "person 0 5;thing 0 4;",
+            "motion 7 0 0;", "person 0 9;".repeat(10) + "thing 9 1;".repeat(14)};
+        WeighedHall x = new WeighedHall();
+        for (int i = 0; i < 3 * halls.length; i++) { // in three orders
+            if (i % halls.length == 0) {
+                x = new WeighedHall();
+            }
+            String hall = halls[i * (1 + i / halls.length) % halls.length];
+            Check.hall(x, hall + "law");
+            Check.hall(x, hall);
+            CHECK.due("persons of '" + hall + "'", x.told(0), Check.told(hall).told(0));
+            CHECK.same("'" + hall + "'", shortAnswers(x), shortAnswers(Check.told(hall)));
+        }
+    }
+
+    private static String shortAnswers(WeighedHall x) {
+        StringBuilder line = new StringBuilder();
+        for (int what = 0; what <= 5; what++) {
+            line.append(' ').append(x.told(what));
+        }
+        int things = x.told(1);
+        for (int t = 0; t < things; t++) {
+            line.append(' ').append(x.thing(t, 3)).append(' ').append(x.holds(t, 7));
+        }
+        return line.append(' ').append(x.passes(0)).append(' ').append(x.hollow(0)).append(' ').append(x.powers()).toString();
     }
 
     private static void hallWithAFault() {

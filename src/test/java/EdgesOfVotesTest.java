@@ -20,13 +20,18 @@ public final class EdgesOfVotesTest {
         speechAndDoors();
         speechBehindTheLastMinute();
         speechByTheLaw();
+        speechAndTheSpent();
         tired();
+        tiredOfAFullHall();
         image();
         restore();
         restoreBringsAllBack();
+        restoreEachVote();
         status();
         statusIsKeptByNoImage();
         answersAreNoRefusals();
+        whatIsFullStaysAsItIs();
+        questionsChangeNothing();
         count();
         CHECK.end("EdgesOfVotesTest");
     }
@@ -163,7 +168,9 @@ public final class EdgesOfVotesTest {
         weighs(98, 49);
         weighs(99, 49);
         WeighedHall all = Check.told("person 0 1;" + "thing 0 99;".repeat(14));
-        all.vote(1, 0, 14 * 49);
+        for (int i = 0; i < 9; i++) {
+            all.vote(1, 0, 14 * 49);
+        }
         hollow(all, 1, 16383, 0, 14, 16383);
     }
 
@@ -231,6 +238,12 @@ public final class EdgesOfVotesTest {
         WeighedHall alike = Check.told("person 0 1;thing 0 6;thing 0 4;thing 0 4;thing 0 4;");
         alike.vote(1, 0, 14);
         hollow(alike, 3, 0, 1, 2, 6);
+        WeighedHall two = Check.told("person 0 1;thing 0 4;thing 0 4;thing 0 8;");
+        two.vote(1, 0, 10);
+        hollow(two, 2, 4, 0, 2, 5);
+        WeighedHall more = Check.told("person 0 1;thing 0 4;thing 0 4;thing 0 8;thing 0 6;");
+        more.vote(1, 0, 15);
+        hollow(more, 2, 8, 0, 2, 12);
         WeighedHall half = Check.told("person 0 1;" + "thing 0 2;".repeat(14));
         half.vote(1, 0, 21);
         hollow(half, 3432, 0, 0, 7, 127);
@@ -323,6 +336,30 @@ public final class EdgesOfVotesTest {
         speech("person 0 1;person 0 1;person 1 99;thing 2 9;motion 0 3 4;law 2;", "", 1, 1, 60, 1);
     }
 
+    private static void speechAndTheSpent() {
+        CHECK.says("A SPEECH of L MINUTES: who is SPENT in these is SPENT");
+        WeighedHall lent = Check.told("person 0 99;person 1 1;thing 0 5;thing 1 20;motion 1 1 2;");
+        Check.lend(lent, "lend 0 1 1 9;");
+        CHECK.due("without a speech", lent.motion(0, 0, 2), 0);
+        CHECK.due("he is spent in the motion's minute", lent.speech(0, 1), false);
+        CHECK.due("he is spent in the motion's minute", lent.speech(0, 2), false);
+        CHECK.due("he is spent ahead of it, and nothing is lent to him", lent.speech(0, 3), true);
+        CHECK.due("tired", lent.tired(0), 3);
+        String door = "person 0 1;thing 0 20;door 1;outside 0 9 0 0;motion 8 0 1;motion 2 1 0;";
+        CHECK.due("what comes to him is on the floor", Check.told(door).speech(1, 7), false);
+        CHECK.due("what comes to him is on the floor", Check.told(door).tired(1), 1);
+    }
+
+    /** The last thing of a full hall, which is the last person's. */
+    private static void tiredOfAFullHall() {
+        CHECK.says("TIRED, by the last of 14 THINGS and of 10 PERSONS");
+        tired("person 0 1;".repeat(9) + "person 0 2;" + "thing 0 1;".repeat(13) + "thing 9 7;motion 5 512 0;", 12);
+        tired("person 0 99;".repeat(10) + "door 1;" + "thing 0 1;".repeat(13) + "outside 9 5 0 0;motion 2 512 0;", 3);
+        WeighedHall lent = Check.told("person 0 1;".repeat(10) + "thing 0 1;".repeat(13) + "thing 9 10;motion 3 512 0;");
+        Check.lend(lent, "lend 0 1 0 1;lend 13 8 0 3;");
+        CHECK.due("tired", lent.tired(0), 4);
+    }
+
     private static void tired(String hall, int due) {
         CHECK.due(hall + " tired(0)", Check.told(hall).tired(0), due);
     }
@@ -341,6 +378,15 @@ public final class EdgesOfVotesTest {
         tired("motion 0 0 0;", NONE);
         tired("person 0 99;door 1;outside 0 60 0 0;motion 0 1 0;", 60);
         tired("person 0 99;door 1;outside 0 61 0 0;motion 0 1 0;", NONE);
+        String inTurn = TWO + "thing 0 5;door 1;" + "outside 1 1 0 0;".repeat(6);
+        for (int minute = 0; minute <= 4; minute++) {
+            tired(inTurn + "motion " + minute + " 1 2;", 5 - minute);
+        }
+        WeighedHall lent = Check.told("person 0 1;person 1 9;thing 1 1;thing 0 10;thing 1 5;motion 3 1 2;");
+        Check.lend(lent, "lend 0 0 0 1;lend 1 1 0 3;");
+        CHECK.due("until who has what was lent is spent", lent.tired(0), 31);
+        CHECK.due("what was lent till the motion comes back with it", lent.speech(0, 30), true);
+        CHECK.due("if it is not on the floor", lent.speech(0, 31), false);
         WeighedHall eight = Check.told("person 0 1;thing 0 5;" + "motion 0 0 0;".repeat(7) + "motion 2 1 0;");
         CHECK.due("tired(7)", eight.tired(7), 10);
         CHECK.noSuch("tired(8)", () -> eight.tired(8));
@@ -412,7 +458,9 @@ public final class EdgesOfVotesTest {
         x.image();
         x.lend(0);
         x.forget();
-        x.vote(1, 0, 6);
+        x.vote(2, 0, 8);
+        CHECK.due("who holds it without lendings", x.holds(0, 0), 0);
+        CHECK.due("hollow by another vote", x.hollow(0), 2);
         Check.feed(x, "law 1;");
         CHECK.due("restore", x.restore(), 1);
         CHECK.same("as with 20 lendings and 9 votes", Answers.of(x), full);
@@ -441,6 +489,28 @@ public final class EdgesOfVotesTest {
         again.restore();
         CHECK.due("the fault is no part of an image", again.fault(), 0);
         CHECK.due("law", again.told(5), 0);
+    }
+
+    private static void restoreEachVote() {
+        CHECK.says("restore: All is as in the latest IMAGE (of VOTES: for F, against G, by how much)");
+        WeighedHall x = Check.told(TWO + "thing 0 6;thing 1 8;");
+        x.vote(1, 0, 3);
+        x.image();
+        x.forget();
+        x.vote(0, 2, -4);
+        x.image();
+        x.forget();
+        x.vote(1, 2, 2);
+        x.image();
+        x.forget();
+        x.vote(2, 1, 2);
+        hollow(x, 1, 0, 3, 0, 0);
+        x.restore();
+        hollow(x, 1, 2, 1, 1, 2);
+        x.restore();
+        hollow(x, 2, 2, 0, 1, 2);
+        x.restore();
+        hollow(x, 2, 1, 0, 1, 1);
     }
 
     private static void status() {
@@ -500,6 +570,47 @@ public final class EdgesOfVotesTest {
         CHECK.due("a text of zeros", x.hall(600), -9);
         CHECK.due("status(0)", x.status(0), 0);
         CHECK.due("status(1)", x.status(1), 0);
+    }
+
+    private static WeighedHall fullOfVotes() {
+        WeighedHall x = Check.told(TWO + "thing 0 6;thing 1 8;motion 5 2 1;");
+        for (int i = 0; i < 9; i++) {
+            x.vote(1, 2, -2);
+            if (i % 3 == 0) {
+                Check.lend(x, "lend 0 1 0 9;".repeat(i + 1));
+                x.image();
+            }
+        }
+        Check.feed(x, " ".repeat(594) + "law 1;");
+        return x;
+    }
+
+    private static void whatIsFullStaysAsItIs() {
+        CHECK.says("NONE, doing nothing; -1: there are 9; -1: there are 3; -1: there is none");
+        WeighedHall x = fullOfVotes();
+        CHECK.due("a tenth vote", x.vote(2, 1, 5), -1);
+        CHECK.due("a fourth image", x.image(), -1);
+        CHECK.due("bytes above 600", x.feed(-1, -1, -1, -1, -1), -1);
+        CHECK.same("what is full", Answers.of(x), Answers.of(fullOfVotes()));
+        CHECK.same("its images", Answers.ofImages(x), Answers.ofImages(fullOfVotes()));
+        CHECK.same("what has no image", Answers.of(restoredInVain()), Answers.of(Check.told(TWO + "thing 0 6;")));
+        CHECK.due("the bytes of the tape", x.hall(600), 0);
+        CHECK.due("law", x.told(5), 1);
+    }
+
+    private static WeighedHall restoredInVain() {
+        WeighedHall x = Check.told(TWO + "thing 0 6;");
+        CHECK.due("restore", x.restore(), -1);
+        return x;
+    }
+
+    /** A question changes nothing, whatever was asked before it. */
+    private static void questionsChangeNothing() {
+        CHECK.says("Nothing is promised beyond the answers and state changes described");
+        WeighedHall x = fullOfVotes();
+        String first = Answers.of(x);
+        CHECK.same("asked twice", Answers.of(x), first);
+        CHECK.same("its images", Answers.ofImages(x), Answers.ofImages(fullOfVotes()));
     }
 
     private static void count() {

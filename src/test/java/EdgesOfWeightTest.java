@@ -11,6 +11,7 @@ public final class EdgesOfWeightTest {
         leastOfTheFirstTen();
         leastAnyByAny();
         leastEachNoMore();
+        leastByEachMotion();
         leastMoreThanAgainst();
         leastOfSuchSets();
         turnsEitherWay();
@@ -108,6 +109,25 @@ public final class EdgesOfWeightTest {
         least(two + "29;motion 1 1 2;", 30, 1);
     }
 
+    /** Who can carry what is found anew for each motion. */
+    private static void leastByEachMotion() {
+        CHECK.says("by PERSONS for it (any by any; each no more pounds than 60 A by its MINUTE and 1)");
+        least("person 0 1;".repeat(9) + "person 0 99;thing 0 61;motion 0 1023 0;", 61, 1);
+        least("person 0 99;" + "person 0 1;".repeat(9) + "thing 9 61;motion 0 1023 0;", 61, 1);
+        least("person 0 1;".repeat(10) + "thing 0 61;motion 0 1023 0;", NONE, NONE);
+        WeighedHall x = Check.told("person 0 1;person 0 99;thing 0 61;motion 0 3 0;motion 0 1 0;motion 0 0 0;");
+        CHECK.due("by two", x.least(0, 0), 61);
+        CHECK.due("by one of these", x.least(1, 0), NONE);
+        CHECK.due("by none", x.least(2, 0), NONE);
+        CHECK.due("by two again", x.least(0, 1), 1);
+        String even = "person 0 1;person 0 1;person 1 99;thing 2 60;";
+        least(even + "thing 0 30;thing 0 30;thing 0 30;motion 0 1 4;", NONE, NONE);
+        least(even + "thing 0 30;thing 0 30;thing 0 30;motion 0 3 4;", 90, 7);
+        least(even + "thing 0 60;thing 0 61;motion 0 3 4;", NONE, NONE);
+        least(even + "thing 0 60;thing 0 60;thing 0 1;motion 0 3 4;", 61, 5);
+        least(even + "thing 0 60;thing 0 60;thing 0 1;thing 2 60;motion 0 3 4;", NONE, NONE);
+    }
+
     private static void leastMoreThanAgainst() {
         CHECK.says("and are more than those against it count in the SITTING (LAW 0)");
         least(TWO + "thing 0 5;thing 1 4;motion 0 1 2;", 5, 1);
@@ -154,6 +174,8 @@ public final class EdgesOfWeightTest {
         turns(TWO + "thing 0 4;thing 0 2;thing 1 3;motion 0 1 2;", 1, 0, 0);
         turns(TWO + "thing 0 5;" + "motion 0 1 2;".repeat(8), 255);
         turns(TWO + "thing 0 5;" + "motion 0 0 0;".repeat(7) + "motion 119 1 2;", 128);
+        turns(TWO + "thing 0 4;thing 1 5;" + "motion 0 0 0;".repeat(7) + "motion 119 1 2;", 0, 128);
+        turns(TWO + "thing 0 4;thing 1 5;" + "motion 119 1 2;".repeat(8), 0, 255);
         turns(TWO + "thing 0 5;", 0);
         turns("person 0 1;person 0 99;thing 0 59;thing 0 2;thing 1 9;motion 0 1 2;", 0, 1, 0);
         WeighedHall x = Check.told(TWO + "thing 0 5;motion 0 1 2;");
@@ -237,6 +259,11 @@ public final class EdgesOfWeightTest {
     private static void powers() {
         CHECK.says("POWER of all PERSONS together");
         CHECK.due("no persons", new WeighedHall().powers(), 0);
+        CHECK.due("powers() ahead of any power", Check.told("person 0 1;thing 0 1;").powers(), 1);
+        WeighedHall x = Check.told("person 0 1;thing 0 1;");
+        CHECK.due("powers()", x.powers(), 1);
+        Check.hall(x, "person 0 1;person 0 1;thing 0 1;");
+        CHECK.due("powers() of another hall", x.powers(), 2);
         StringBuilder ten = new StringBuilder("person 0 1;".repeat(10));
         for (int p = 0; p < 10; p++) {
             ten.append("thing ").append(p).append(" 7;");

@@ -47,6 +47,9 @@ public final class RefusalsTest {
     public static void main(String[] args) {
         allOf("", "", 0);
         allOf("", "", 320);
+        allOf("person 0 1;", "", 20);
+        allOf("person 0 1;thing 0 1;", "", 20);
+        allOf("door 1;motion 0 0 0;", "", 20);
         allOf(SMALL, "lend 0 1 0 9;lend 3 2 2 8;", 40);
         allOf(FULL, "lend0 1 0 1;".repeat(20), 600);
         bothWrong();
