@@ -297,6 +297,16 @@ public final class EdgesOfTextsTest {
             hall(word + "A", UNFIT, word.length());
             hall(Character.toUpperCase(word.charAt(0)) + word.substring(1) + " 0;", UNFIT, 0);
             hall(word + word, UNFIT, 0);
+            for (int i = 0; i < word.length(); i++) {
+                String other = word.substring(0, i) + 'q' + word.substring(i + 1);
+                hall(ONE + "door 1;" + other + " 0 0 0 0;", UNFIT, 18);
+                hall(ONE + "door 1;" + other + " 0 1 0 0;", UNFIT, 18);
+                hall(ONE + "door 1;" + other + " 0 1;", UNFIT, 18);
+                hall(ONE + "door 1;" + other + " 1;", UNFIT, 18);
+            }
+        }
+        for (int i = 0; i < 4; i++) {
+            lend("lend".substring(0, i) + 'q' + "lend".substring(i + 1) + " 0 1 0 1;", UNFIT, 0);
         }
         hall("l aw 1;", UNFIT, 0);
         hall("lend 0 1 0 1;", UNFIT, 0);
@@ -465,6 +475,19 @@ public final class EdgesOfTextsTest {
         Check.feed(x, "law 2;law 9;");
         CHECK.due("with its fault", x.hall(12), NO_SUCH_NUMBER);
         CHECK.due("the tape is empty behind a fault", x.count(2), 0);
+        Check.feed(x, "lawx");
+        CHECK.due("a part of a word", x.hall(3), UNFIT);
+        CHECK.due("it ends too early", x.fault(), 3);
+        Check.feed(x, "law 12;");
+        CHECK.due("a part of a number", x.hall(5), UNFIT);
+        CHECK.due("it ends too early", x.fault(), 5);
+        Check.feed(x, "law 1;laws");
+        CHECK.due("no part of the next clause", x.hall(6), 0);
+        for (String last : new String[] {"law", "law 1", "law ", " law 1 "}) {
+            Check.feed(x, " ".repeat(600 - last.length()) + last);
+            CHECK.due("the last bytes of a full tape", x.hall(600), UNFIT);
+            CHECK.due("it ends too early", x.fault(), 600);
+        }
         Check.feed(x, "law 2;" + " ".repeat(14));
         CHECK.due("all bytes of the tape", x.hall(20), 0);
     }
